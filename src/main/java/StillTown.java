@@ -85,10 +85,10 @@ public final class StillTown {
     private long bottom = 1;
     private final Trays trays = new Trays();
     private final Tape tape = new Tape();
-    private final TownReader townReader = new TownReader(tape);
-    private final PlanReader planReader = new PlanReader(tape);
     private Town town = new Town();
     private Town spare = new Town();
+    private final TownReader townReader = new TownReader(tape, spare);
+    private final PlanReader planReader = new PlanReader(tape);
     private final Town[] marks = {new Town(), new Town(), new Town()};
     private int markCount = 0;
     private final Course course = new Course(town);
@@ -796,8 +796,12 @@ public final class StillTown {
 
         Tape() {
             Arrays.fill(sorts, NO_TOKEN);
-            Arrays.fill(sorts, '0', '9' + 1, NUMBER);
-            Arrays.fill(sorts, 'a', 'z' + 1, WORD);
+            for (int digit = '0'; digit <= '9'; digit++) {
+                sorts[digit] = NUMBER;
+            }
+            for (int letter = 'a'; letter <= 'z'; letter++) {
+                sorts[letter] = WORD;
+            }
             sorts[';'] = STOP;
             sorts[' '] = BLANK;
             sorts['\n'] = BLANK;
@@ -1037,8 +1041,14 @@ public final class StillTown {
             return false;
         }
 
-        /** What there is of a WEIGHT on a CELL, where a TREE may sway. */
-        int dimmed(int plain, int cell) {
+        /** The WEIGHT of a move where it is seen; of being still: for one who moves itself. */
+        int weightOn(int cell, int move) {
+            int plain = FULL;
+            if (move == STILL) {
+                plain = seen[SEEN_SELF];
+            } else if (move != STEP) {
+                plain = seen[move - SLOW];
+            }
             return plain * (FULL - sways[cell]) / FULL;
         }
     }
@@ -1051,9 +1061,9 @@ public final class StillTown {
         private int y = 0;
         private boolean seenTold = false;
 
-        TownReader(Tape tape) {
+        TownReader(Tape tape, Town town) {
             this.tape = tape;
-            this.town = new Town();
+            this.town = town;
         }
 
         /** False with a FAULT on the tape; what it filled till then is to be dropped. */
@@ -1665,20 +1675,12 @@ public final class StillTown {
             return views[key];
         }
 
-        /** The WEIGHT of a move where there is no TREE. */
-        int plainWeight(int who, int move, int minute) {
-            if (move == STILL) {
-                return moved(who, minute) ? town.seen[SEEN_SELF] : 0;
-            }
-            return move == STEP ? FULL : town.seen[move - SLOW];
-        }
-
         /** WEIGHT with which a PERSON would see one who is on a CELL behind a minute and did so. */
         int weightAs(int who, int cell, int move, int minute) {
-            if (!has(viewOf(who, minute), cell)) {
+            if (!has(viewOf(who, minute), cell) || move == STILL && !moved(who, minute)) {
                 return 0;
             }
-            return town.dimmed(plainWeight(who, move, minute), cell);
+            return town.weightOn(cell, move);
         }
 
         int weightOf(int who, int whom, int minute) {
@@ -1747,11 +1749,10 @@ public final class StillTown {
 
         private void weigh() {
             for (int move = STILL; move <= SIGN; move++) {
-                int plain = move == STILL ? course.town.seen[SEEN_SELF] : course.plainWeight(0, move, 0);
                 faint[move] = 0;
                 full[move] = 0;
                 for (int cell = 0; cell < course.grid.cells; cell++) {
-                    int weight = course.town.dimmed(plain, cell);
+                    int weight = course.town.weightOn(cell, move);
                     faint[move] |= weight > 0 ? 1L << cell : 0;
                     full[move] |= weight >= FULL ? 1L << cell : 0;
                 }
@@ -2166,7 +2167,9 @@ public final class StillTown {
                 for (int look = 0; look < WAYS; look++) {
                     set |= trapped[grid.nextFree(cell, look)];
                 }
-                more |= has(grid.free, cell) && set != had[cell];
+                if (has(grid.free, cell) && set != had[cell]) {
+                    more = true;
+                }
                 hadNext[cell] = set;
             }
             long[] old = had;

@@ -820,6 +820,110 @@ public final class PromiseTest {
         Check.refused(y, "no people", y.at(0, 0), 1);
     }
 
+    /** What comes in the last minute that counts, or one behind it. */
+    private static void lastMinutes() {
+        StillTown x = Check.planned(STREET, "p does still 59 sign;");
+        Check.answered(x, "first in minute 60", x.first(0, 1, 1), 60);
+        Check.answered(x, "judged in minute 60", x.judged(0), 60);
+        Check.answered(x, "gone till minute 60", x.gone(0), 59);
+        Check.answered(x, "stood till minute 60", x.stood(1, 0), 59);
+        Check.answered(x, "moving in minute 60", x.moving(60), 1);
+        town(x, STREET + "tree 4 0 sways 8;");
+        plan(x, "p does sign;");
+        Check.answered(x, "judged by a weight of 1", x.judged(0), 1);
+        town(x, CORNER);
+        plan(x, "o does still 59 turn n;");
+        Check.answered(x, "a way of 60 minutes", x.way(0, 5), 60);
+        Check.answered(x, "its last cell but one", x.wayCell(59), 1);
+        Check.answered(x, "its last cell", x.wayCell(60), 5);
+        plan(x, "o does loop 60 still 60 end turn n;");
+        Check.refused(x, "none of 61", x.way(0, 5), 6);
+        // q sees the CELL 1 alone, and that behind minute 60
+        String late = "size 2 2;person p at 0 0 looks e far 9;person q at 1 1 looks s far 1;shows p to q;";
+        town(x, late);
+        plan(x, "q does still 59 turn n;");
+        Check.answered(x, "shown in minute 60", x.shown(0), 60);
+        town(x, "size 8 2;wall 2 0 to 2 1;person o at 3 0 looks e far 9;person p at 1 0 looks e far 9;person q at 1 0 looks e far 1;");
+        plan(x, "q does still 59 turn w;");
+        Check.answered(x, "followed, unless seen", x.followed(1, 2, 1), 60);
+        town(x, "size 4 2;wall 1 0 to 1 0;wall 1 1 to 1 1;person o at 2 0 looks e far 9;person p at 0 0 looks e far 9;");
+        plan(x, "o does still 59 step e;");
+        Check.answered(x, "till it goes in minute 60", x.followed(1, 0, 2), 59);
+        town(x, STREET + "seen slow 0 turn 0 sign 1 self 0;");
+        int chance = 1000000;
+        for (int t = 1; t <= 60; t++) {
+            chance = chance * 15 / 16;
+            Check.answered(x, "signs till " + t, x.signs(1, 0, chance), t);
+        }
+        Check.refused(x, "signs till 61", x.signs(1, 0, chance - 1), 6);
+    }
+
+    private static void thirtyMinutes() {
+        // teeth of a comb: the ways from end to end add up
+        String comb = "size 8 6;wall 1 1 to 1 5;wall 3 1 to 3 5;wall 5 1 to 5 5;wall 7 1 to 7 5;person a at ";
+        StillTown x = Check.townOf(comb + "4 0 looks n far 1;");
+        Check.answered(x, "found in 29", x.found(0, 93458488377345L), 29);
+        town(x, comb + "3 0 looks n far 1;");
+        Check.answered(x, "found in 30", x.found(0, 93458488360965L), 30);
+        town(x, "size 8 6;wall 0 0 to 0 0;wall 2 0 to 2 0;wall 7 0 to 7 0;wall 1 1 to 1 4;wall 3 1 to 6 1;wall 3 2 to 3 3;wall 5 2 to 6 2;"
+            + "wall 5 3 to 5 3;wall 7 3 to 7 3;wall 2 4 to 2 4;wall 5 4 to 6 4;wall 0 5 to 1 5;wall 3 5 to 4 5;wall 6 5 to 7 5;"
+            + "person a at 3 0 looks n far 1;");
+        Check.refused(x, "31 are too many", x.found(0, 72018285297664L), 6);
+    }
+
+    private static void behindAFault() {
+        StillTown x = Check.townOf(STREET);
+        Check.refused(x, "a loop that does not end", Check.plan(x, "p does loop 2 loop 2 step w"), 9);
+        Check.refused(x, "an end without a loop", Check.plan(x, "p does step w end;"), 9);
+        Check.due("its place", x.fault(1), 14);
+        Check.answered(x, "a plan behind it", plan(x, "p does step w;"), 1);
+        Check.answered(x, "its steps", x.at(1, 60), 3);
+        Check.refused(x, "a town that is spoilt", Check.town(x, "size 4 4;seen slow 1 turn 1 sign 1 self 1;wall 0 0 to 3 3;lamp 0 0;"), 9);
+        Check.answered(x, "a town behind it", town(x, "size 4 4;"), 16);
+        Check.answered(x, "no walls", x.wall(0), 0);
+        Check.answered(x, "slow", x.told(6), 4);
+        Check.answered(x, "turn", x.told(7), 8);
+        Check.answered(x, "sign", x.told(8), 2);
+        Check.answered(x, "self", x.told(9), 16);
+    }
+
+    private static void othersThanTheFirst() {
+        // whom by number 1, and by SELF alone
+        StillTown x = Check.planned("size 2 2;wall 1 1 to 1 1;wall 0 1 to 0 1;person p at 0 0 looks e far 9;person o at 1 0 looks w far 9;",
+            "o does still 4 turn w;");
+        Check.answered(x, "signs by the second", x.signs(0, 1, 999999), 1);
+        Check.answered(x, "followed till it moves itself, from its own cell for good", x.followed(0, 1, 9), 60);
+        town(x, "size 4 2;wall 1 1 to 3 1;wall 0 1 to 0 1;person p at 0 0 looks e far 9;person q at 0 0 looks w far 9;"
+            + "person o at 3 0 looks w far 9;seen slow 1 turn 0 sign 0 self 1;");
+        plan(x, "o does still 4 turn w;");
+        Check.answered(x, "followed till it moves itself", x.followed(0, 2, 9), 4);
+        // a sign is all that a PERSON can do behind walls
+        town(x, "size 3 2;wall 0 1 to 2 1;wall 1 0 to 1 0;person p at 0 0 looks e far 9;person q at 2 0 looks w far 9;shows p to q;"
+            + "seen slow 0 turn 0 sign 16 self 0;");
+        Check.refused(x, "nor that", x.shown(0), 6);
+        town(x, "size 2 2;wall 0 1 to 1 1;person p at 0 0 looks e far 9;person q at 1 0 looks w far 9;shows p to q;"
+            + "seen slow 0 turn 0 sign 16 self 0;tree 1 0 sways 16;");
+        Check.answered(x, "a sign", x.shown(0), 1);
+        town(x, "size 2 2;wall 0 1 to 1 1;person p at 0 0 looks e far 9;person q at 1 0 looks w far 9;shows p to q;"
+            + "seen slow 0 turn 0 sign 15 self 0;tree 0 0 sways 1;");
+        Check.refused(x, "too faint a sign", x.shown(0), 6);
+        town(x, "size 2 2;wall 0 1 to 1 1;person p at 0 0 looks e far 9;person q at 1 0 looks w far 9;person r at 1 0 looks w far 9;"
+            + "shows p to q;hides p from r;seen slow 0 turn 0 sign 16 self 0;");
+        Check.refused(x, "a sign that a watcher sees", x.shown(0), 6);
+        // halved each minute: 1 behind minute 19
+        town(x, "size 2 2;wall 0 1 to 0 1;person p at 0 0 looks e far 9;person o at 1 1 looks w far 9;hides p from o;"
+            + "seen slow 16 turn 0 sign 0 self 8;wall 1 0 to 1 0;");
+        plan(x, "o does loop 60 turn nw end;");
+        Check.answered(x, "hardly unseen", x.unseen(0, 1, 19), 1);
+        Check.answered(x, "seen for sure", x.unseen(0, 1, 20), 0);
+        // the CELL of o itself is out of its sight
+        Check.answered(x, "where o stands", x.likeliest(0, 3, 60), 1000000);
+        Check.answered(x, "to stay", x.likeliest(0, 0, 1), 500000);
+        // every lamp is needed, the first and the last, too
+        town(x, "size 5 2;person a at 1 0 looks w far 1;person b at 3 0 looks e far 1;lamp 0 0;lamp 2 1;lamp 4 0;");
+        Check.answered(x, "the first and the last lamp", x.lamps(1), 5);
+    }
+
     public static void main(String[] args) {
         p01NewObject();
         p02Status();
@@ -853,6 +957,10 @@ public final class PromiseTest {
         p45Gallery();
         p46to49Days();
         p50p51Marks();
+        lastMinutes();
+        thirtyMinutes();
+        behindAFault();
+        othersThanTheFirst();
         Check.finish("PromiseTest");
     }
 }

@@ -14,6 +14,7 @@ public final class RandomTownTest {
     private StillTown x;
     private int moves = 0;
     private int bigness;
+    private boolean maze;
 
     private RandomTownTest(long seed) {
         random = new Random(seed);
@@ -22,13 +23,36 @@ public final class RandomTownTest {
     public static void main(String[] args) {
         int runs = args.length > 0 ? Integer.parseInt(args[0]) : 260;
         long base = args.length > 1 ? Long.parseLong(args[1]) : 1;
+        StillTown used = new StillTown();
         for (int i = 0; i < runs; i++) {
             RandomTownTest test = new RandomTownTest(base + i);
             test.build();
+            test.enter(new StillTown());
             test.ask();
+            if (i % 4 == 3) {
+                oneBehindTheOther(used, base + i);
+            }
         }
         words(new Random(base));
         Check.finish("RandomTownTest");
+    }
+
+    /** What an object had ahead is gone with a new town, and is all there again behind a mark taken back. */
+    private static void oneBehindTheOther(StillTown used, long seed) {
+        RandomTownTest[] tests = new RandomTownTest[4];
+        for (int i = 0; i < tests.length; i++) {
+            tests[i] = new RandomTownTest(seed + 100_000 * (i + 1));
+            tests[i].build();
+            tests[i].enter(used);
+            if (i < 3) {
+                Check.answered(used, "mark", used.mark(), i + 1);
+            }
+        }
+        tests[3].ask();
+        for (int i = 2; i >= 0; i--) {
+            Check.answered(used, "back", used.back(), i);
+            tests[i].ask();
+        }
     }
 
     private int below(int n) {
@@ -62,6 +86,10 @@ public final class RandomTownTest {
         want.sways = new int[want.cells()];
         java.util.Arrays.fill(want.sways, -1);
         put("size", want.width, want.height);
+        maze = oneIn(4);
+        for (int i = maze ? want.cells() / 3 : 0; i > 0; i--) {
+            part(0);
+        }
         int parts = below(bigness == 0 ? 5 : 14);
         for (int i = 0; i < parts; i++) {
             part(below(4));
@@ -79,13 +107,18 @@ public final class RandomTownTest {
         if (count > 0 && oneIn(2)) {
             part(below(4));
         }
-        x = new StillTown();
-        Check.answered(x, "town " + text, Check.town(x, text.toString()), want.cells());
         if (!oneIn(8)) {
             plan();
-            Check.answered(x, "plan " + planText, Check.plan(x, planText.toString()), moves);
         }
         want.simulate();
+    }
+
+    private void enter(StillTown object) {
+        x = object;
+        Check.answered(x, "town " + text, Check.town(x, text.toString()), want.cells());
+        if (planText.length() > 0) {
+            Check.answered(x, "plan " + planText, Check.plan(x, planText.toString()), moves);
+        }
     }
 
     private boolean occupied(int cell) {
@@ -94,7 +127,7 @@ public final class RandomTownTest {
                 return true;
             }
         }
-        return want.sways[cell] >= 0 || want.lamps.contains(cell);
+        return want.sways[cell] >= 0 || want.lamps.contains(cell) || maze && text.length() > 420;
     }
 
     private void part(int kind) {
@@ -174,7 +207,7 @@ public final class RandomTownTest {
         }
         one.name = NAMES[want.people.size()];
         one.look = below(8);
-        one.far = oneIn(2) ? 9 : 1 + below(9);
+        one.far = maze ? 1 + below(3) : oneIn(2) ? 9 : 1 + below(9);
         want.people.add(one);
         put("person", one.name, "at", cell(one.cell), "looks", WAYS[one.look], "far", one.far);
     }
@@ -384,7 +417,7 @@ public final class RandomTownTest {
         same("followed " + p + " " + q + " " + far, x.followed(p, q, far), want.followed(p, q, far));
         int most = oneIn(3) ? below(1000) : below(1000000);
         sameIfAny("signs " + p + " " + q + " " + most, x.signs(p, q, most), want.signs(p, q, most));
-        if (bigness < 3 && oneIn(2)) {
+        if (maze || bigness < 3 && oneIn(2)) {
             sameIfAny("meeting " + p + " " + q, x.meeting(p, q), want.meeting(p, q));
         }
     }

@@ -1544,11 +1544,6 @@ public final class StillTown {
             return cones[key];
         }
 
-        /** Whether one who looks all round sees so far. */
-        boolean reaches(int from, int to, int far, long blocked) {
-            return from != to && off(from, to) <= far && (line(from, to) & blocked) == 0;
-        }
-
         /** All CELLS IN SIGHT. */
         long view(int from, int look, int far, long blocked) {
             long wanted = cone(from, look);
@@ -1960,11 +1955,12 @@ public final class StillTown {
         /** By who has seen the other one and the CELL of one, the CELLS of the other. */
         private long[] pairs = new long[(BOTH + 1) * MOST_CELLS];
         private long[] nextPairs = new long[(BOTH + 1) * MOST_CELLS];
+        /** By the CELL of one: the CELLS in its sight, and those that have it in theirs. */
         private final long[] seenByA = new long[MOST_CELLS];
         private final long[] seeingA = new long[MOST_CELLS];
+        /** By the hunter's CELL, those where it has the hider soon enough; and those if the hider goes next. */
+        private final long[] had = new long[MOST_CELLS];
         private final long[] trapped = new long[MOST_CELLS];
-        private long[] had = new long[MOST_CELLS];
-        private long[] hadNext = new long[MOST_CELLS];
         private final int[] holders = new int[MOST_CELLS];
 
         Search(Course course) {
@@ -2006,7 +2002,8 @@ public final class StillTown {
             Arrays.fill(gaining, 0);
             for (int cell = 0; cell < course.grid.cells; cell++) {
                 for (int i = 0; i < count; i++) {
-                    if (has(course.grid.free, cell) && course.grid.reaches(cell, sought[i], far, blocked)) {
+                    boolean isNear = course.grid.off(cell, sought[i]) <= far;
+                    if (isNear && (course.grid.line(cell, sought[i]) & blocked) == 0) {
                         noteGain(cell, i);
                     }
                 }
@@ -2102,15 +2099,14 @@ public final class StillTown {
         }
 
         private void lookAround(int farA, int farB, long blocked) {
-            for (int cell = 0; cell < course.grid.cells; cell++) {
-                seenByA[cell] = 0;
-                seeingA[cell] = 0;
-                for (int other = 0; other < course.grid.cells; other++) {
-                    if (course.grid.reaches(cell, other, farA, blocked)) {
-                        seenByA[cell] |= 1L << other;
-                    }
-                    if (course.grid.reaches(other, cell, farB, blocked)) {
-                        seeingA[cell] |= 1L << other;
+            Arrays.fill(seenByA, 0);
+            Arrays.fill(seeingA, 0);
+            for (int from = 0; from < course.grid.cells; from++) {
+                for (int to = 0; to < course.grid.cells; to++) {
+                    if (to != from && (course.grid.line(from, to) & blocked) == 0) {
+                        int off = course.grid.off(from, to);
+                        seenByA[from] |= off <= farA ? 1L << to : 0;
+                        seeingA[to] |= off <= farB ? 1L << from : 0;
                     }
                 }
             }
@@ -2170,11 +2166,8 @@ public final class StillTown {
                 if (has(grid.free, cell) && set != had[cell]) {
                     more = true;
                 }
-                hadNext[cell] = set;
+                had[cell] = set;
             }
-            long[] old = had;
-            had = hadNext;
-            hadNext = old;
             return more;
         }
 

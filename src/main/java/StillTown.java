@@ -842,7 +842,9 @@ public final class StillTown {
 
         /** The latest TOKEN can't stand where it is. */
         boolean blameToken() {
-            return blame(kind == NO_TOKEN ? 1 : 2);
+            fault = kind == NO_TOKEN ? 1 : 2;
+            faultPlace = place;
+            return false;
         }
 
         /** Goes on to the next TOKEN. */
@@ -851,40 +853,31 @@ public final class StillTown {
                 next++;
             }
             place = next;
-            keyword = NONE;
             kind = next < length ? sorts[bytes[next]] : AT_END;
-            if (kind == NUMBER) {
-                readNumber();
-            } else if (kind == WORD) {
-                readWord();
+            if (kind == WORD || kind == NUMBER) {
+                while (next < length && sorts[bytes[next]] == kind) {
+                    next++;
+                }
             } else if (kind != AT_END) {
                 next++;
             }
-        }
-
-        private void readNumber() {
+            if (kind == NUMBER && next - place > MOST_DIGITS) {
+                kind = NO_TOKEN;
+            }
             value = 0;
-            while (next < length && sorts[bytes[next]] == NUMBER) {
-                if (next - place < MOST_DIGITS) {
-                    value = value * 10 + bytes[next] - '0';
-                }
-                next++;
-            }
-            kind = next - place > MOST_DIGITS ? NO_TOKEN : NUMBER;
-        }
-
-        private void readWord() {
             code = 0;
-            while (next < length && sorts[bytes[next]] == WORD) {
-                code = code << BITS_OF_LETTER | bytes[next] - 'a' + 1;
-                next++;
+            keyword = NONE;
+            if (kind == NUMBER) {
+                for (int i = place; i < next; i++) {
+                    value = value * 10 + bytes[i] - '0';
+                }
             }
-            if (next - place > MOST_LETTERS) {
-                code = 0;
-            }
-            for (int word = 0; word < WORD_COUNT; word++) {
-                if (wordCodes[word] == code) {
-                    keyword = word;
+            if (kind == WORD && next - place <= MOST_LETTERS) {
+                for (int i = place; i < next; i++) {
+                    code = code << BITS_OF_LETTER | bytes[i] - 'a' + 1;
+                }
+                for (int word = 0; word < WORD_COUNT; word++) {
+                    keyword = wordCodes[word] == code ? word : keyword;
                 }
             }
         }
@@ -1493,7 +1486,11 @@ public final class StillTown {
         }
 
         int off(int from, int to) {
-            return Math.max(Math.abs(columns[to] - columns[from]), Math.abs(rows[to] - rows[from]));
+            int dx = columns[to] - columns[from];
+            int dy = rows[to] - rows[from];
+            int aside = dx < 0 ? -dx : dx;
+            int along = dy < 0 ? -dy : dy;
+            return aside > along ? aside : along;
         }
 
         long around(int cell, int far) {
@@ -1506,13 +1503,12 @@ public final class StillTown {
             return set;
         }
 
-        /** The CELLS BETWEEN two. */
-        long line(int from, int to) {
+        /** The CELLS BETWEEN two that are n CELLS off one another. */
+        long line(int from, int to, int n) {
             int key = from * MOST_CELLS + to;
             if (lines[key] == NONE) {
                 int dx = columns[to] - columns[from];
                 int dy = rows[to] - rows[from];
-                int n = Math.max(Math.abs(dx), Math.abs(dy));
                 long set = 0;
                 for (int k = 1; k < n; k++) {
                     // a half more, rounded down, is to the nearest, halves up; within the TOWN none is below 0
@@ -1534,8 +1530,8 @@ public final class StillTown {
                     int dx = columns[to] - columns[from];
                     int dy = rows[to] - rows[from];
                     int ahead = dx * EAST[look] + dy * SOUTH[look];
-                    int aside = Math.abs(dx * SOUTH[look] - dy * EAST[look]);
-                    if (ahead > 0 && aside <= ahead) {
+                    int aside = dx * SOUTH[look] - dy * EAST[look];
+                    if (ahead > 0 && aside <= ahead && -aside <= ahead) {
                         set |= 1L << to;
                     }
                 }
@@ -1549,7 +1545,8 @@ public final class StillTown {
             long wanted = cone(from, look);
             long set = 0;
             for (int to = 0; to < cells; to++) {
-                if (has(wanted, to) && off(from, to) <= far && (line(from, to) & blocked) == 0) {
+                int n = off(from, to);
+                if (has(wanted, to) && n <= far && (line(from, to, n) & blocked) == 0) {
                     set |= 1L << to;
                 }
             }
@@ -2002,8 +1999,8 @@ public final class StillTown {
             Arrays.fill(gaining, 0);
             for (int cell = 0; cell < course.grid.cells; cell++) {
                 for (int i = 0; i < count; i++) {
-                    boolean isNear = course.grid.off(cell, sought[i]) <= far;
-                    if (isNear && (course.grid.line(cell, sought[i]) & blocked) == 0) {
+                    int off = course.grid.off(cell, sought[i]);
+                    if (off <= far && (course.grid.line(cell, sought[i], off) & blocked) == 0) {
                         noteGain(cell, i);
                     }
                 }
@@ -2103,8 +2100,8 @@ public final class StillTown {
             Arrays.fill(seeingA, 0);
             for (int from = 0; from < course.grid.cells; from++) {
                 for (int to = 0; to < course.grid.cells; to++) {
-                    if (to != from && (course.grid.line(from, to) & blocked) == 0) {
-                        int off = course.grid.off(from, to);
+                    int off = course.grid.off(from, to);
+                    if (to != from && (course.grid.line(from, to, off) & blocked) == 0) {
                         seenByA[from] |= off <= farA ? 1L << to : 0;
                         seeingA[to] |= off <= farB ? 1L << from : 0;
                     }

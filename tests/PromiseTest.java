@@ -572,6 +572,22 @@ public final class PromiseTest {
         Check.refused(x, "one can't step", x.meeting(0, 1), 6);
         town(x, "size 2 2;person a at 0 0 looks e far 1;person b at 0 0 looks e far 1;");
         Check.answered(x, "from one cell", x.meeting(0, 1), 1);
+        // towns found by draws, answered by the Reference, in which who stays and who steps counts
+        String[] second = {
+            "size 8 2;wall 0 0 to 0 0;wall 3 0 to 4 0;wall 1 1 to 2 1;cart 1 1 goes sw;cart 6 0 goes e w s e;"
+                + "person a at 0 1 looks n far 9;person b at 7 0 looks n far 9;",
+            "size 8 6;wall 1 0 to 1 1;wall 3 0 to 3 0;wall 2 1 to 2 1;wall 4 1 to 4 1;wall 6 1 to 7 1;wall 0 2 to 0 3;wall 6 2 to 6 2;"
+                + "wall 1 3 to 2 3;wall 5 3 to 5 3;wall 0 5 to 0 5;wall 3 5 to 3 5;wall 6 5 to 7 5;cart 4 2 goes nw s;"
+                + "person a at 1 4 looks n far 9;person b at 0 0 looks n far 9;",
+            "size 4 3;wall 0 0 to 0 0;wall 3 0 to 3 0;wall 1 1 to 2 1;wall 1 2 to 1 2;"
+                + "person a at 0 2 looks n far 2;person b at 3 1 looks n far 3;",
+            "size 8 2;wall 2 1 to 2 1;wall 4 1 to 4 1;wall 7 1 to 7 1;cart 3 1 goes ne w w;"
+                + "person a at 1 0 looks n far 2;person b at 7 0 looks n far 9;",
+        };
+        for (int i = 0; i < second.length; i++) {
+            town(x, second[i]);
+            Check.answered(x, "meeting in " + second[i], x.meeting(0, 1), 2);
+        }
     }
 
     private static void p35Hunted() {
@@ -812,6 +828,12 @@ public final class PromiseTest {
         Check.answered(x, "who hides", x.person(1, 1), 1);
         Check.refused(x, "none is left", x.back(), 6);
         Check.answered(x, "the tray stays", x.read(0, 0), 0);
+        town(x, "size 3 3;person ann at 0 0 looks e far 1;person bob at 2 2 looks w far 1;");
+        x.mark();
+        town(x, "size 3 3;person cid at 0 0 looks e far 1;person dan at 2 2 looks w far 1;");
+        Check.answered(x, "back to others", x.back(), 0);
+        Check.answered(x, "they bear their names", Check.plan(x, "bob does turn n;ann does sign;"), 2);
+        Check.refused(x, "no others do", Check.plan(x, "cid does sign;"), 9);
         StillTown y = new StillTown();
         y.mark();
         town(y, STREET);

@@ -33,6 +33,10 @@ public final class RandomTownTest {
                 oneBehindTheOther(used, base + i);
             }
         }
+        for (int i = 0; i < 8 * runs; i++) {
+            RandomTownTest test = new RandomTownTest(base + i);
+            test.askOfMaze();
+        }
         words(new Random(base));
         Check.finish("RandomTownTest");
     }
@@ -52,6 +56,31 @@ public final class RandomTownTest {
         for (int i = 2; i >= 0; i--) {
             Check.answered(used, "back", used.back(), i);
             tests[i].ask();
+        }
+    }
+
+    /** Two in a maze, with carts: they look for each other, or one hunts the other. */
+    private void askOfMaze() {
+        start(2 + below(oneIn(3) ? 7 : 4), 2 + below(oneIn(3) ? 5 : 3));
+        for (int cell = 0; cell < want.cells(); cell++) {
+            if (oneIn(3)) {
+                want.wall[cell] = true;
+                put("wall", cell(cell), "to", cell(cell));
+            }
+        }
+        for (int i = below(3); i > 0; i--) {
+            cart(below(want.cells()));
+        }
+        maze = oneIn(2);
+        person();
+        person();
+        want.simulate();
+        if (want.people.size() == 2) {
+            enter(new StillTown());
+            sameIfAny("meeting", x.meeting(0, 1), want.meeting(0, 1));
+            int a = want.people.get(0).cell;
+            int b = want.people.get(1).cell;
+            sameIfAny("hunted " + a + " " + b, x.hunted(a, b), want.hunted(a, b));
         }
     }
 
@@ -80,12 +109,7 @@ public final class RandomTownTest {
 
     private void build() {
         bigness = below(4);
-        want.width = bigness == 0 ? 2 + below(2) : 2 + below(7);
-        want.height = bigness == 0 ? 2 + below(2) : 2 + below(5);
-        want.wall = new boolean[want.cells()];
-        want.sways = new int[want.cells()];
-        java.util.Arrays.fill(want.sways, -1);
-        put("size", want.width, want.height);
+        start(bigness == 0 ? 2 + below(2) : 2 + below(7), bigness == 0 ? 2 + below(2) : 2 + below(5));
         maze = oneIn(4);
         for (int i = maze ? want.cells() / 3 : 0; i > 0; i--) {
             part(0);
@@ -119,6 +143,15 @@ public final class RandomTownTest {
         if (planText.length() > 0) {
             Check.answered(x, "plan " + planText, Check.plan(x, planText.toString()), moves);
         }
+    }
+
+    private void start(int width, int height) {
+        want.width = width;
+        want.height = height;
+        want.wall = new boolean[want.cells()];
+        want.sways = new int[want.cells()];
+        java.util.Arrays.fill(want.sways, -1);
+        put("size", width, height);
     }
 
     private boolean occupied(int cell) {

@@ -15,6 +15,15 @@ public final class StillTown {
     private static final int UNLIKE = 8;
     private static final int FAULTY = 9;
 
+    // FAULTS
+    private static final int FAULT_NO_TOKEN = 1;
+    private static final int FAULT_STANDS = 2;
+    private static final int FAULT_NAME = 3;
+    private static final int FAULT_NUMBER = 4;
+    private static final int FAULT_TWICE = 5;
+    private static final int FAULT_MORE = 6;
+    private static final int FAULT_DEEP = 7;
+
     // bounds of the document
     private static final int MOST_CELLS = 48;
     private static final int MOST_PEOPLE = 8;
@@ -30,7 +39,9 @@ public final class StillTown {
     private static final int SHORT_SEARCH = 30;
     /** Minute 0, and behind each of the 60. */
     private static final int TIMES = 61;
+    private static final int FARTHEST = 9;
     private static final int LAST_SEED = 9999;
+    private static final int MOST_DAYS = 30;
     private static final int SURELY = 1_000_000;
 
     // what a PERSON does in a minute
@@ -45,6 +56,7 @@ public final class StillTown {
     // where the WEIGHTS that SEEN tells stand in its row
     private static final int SEEN_SELF = 3;
     private static final int SEEN_COUNT = 4;
+    private static final int[] SEEN_WITHOUT = {4, 8, 2, 16};
 
     // WAYS, round by the right from n
     private static final int WAYS = 8;
@@ -469,7 +481,7 @@ public final class StillTown {
     }
 
     public int followed(int person, int whom, int far) {
-        if (!areTwo(person, whom) || !within(far, 1, 9)) {
+        if (!areTwo(person, whom) || !within(far, 1, FARTHEST)) {
             return refuse(BAD_NUMBER);
         }
         return answer(stealth.longestFollowed(person, whom, far));
@@ -529,7 +541,7 @@ public final class StillTown {
     }
 
     public boolean safe(int seed, int many) {
-        if (!within(many, 1, 30) || !within(seed, 0, LAST_SEED + 1 - many)) {
+        if (!within(many, 1, MOST_DAYS) || !within(seed, 0, LAST_SEED + 1 - many)) {
             return deny(BAD_NUMBER);
         }
         int count = 0;
@@ -842,7 +854,7 @@ public final class StillTown {
 
         /** The latest TOKEN can't stand where it is. */
         boolean blameToken() {
-            fault = kind == NO_TOKEN ? 1 : 2;
+            fault = kind == NO_TOKEN ? FAULT_NO_TOKEN : FAULT_STANDS;
             faultPlace = place;
             return false;
         }
@@ -915,7 +927,7 @@ public final class StillTown {
             if (kind != NUMBER) {
                 return blameToken();
             }
-            return within(value, least, most) || blame(4);
+            return within(value, least, most) || blame(FAULT_NUMBER);
         }
     }
 
@@ -983,10 +995,14 @@ public final class StillTown {
         int lampCount = 0;
         final int[] lampCells = new int[MOST_LAMPS];
         /** With how many sixteenths slow, turn, sign, SELF are seen. */
-        final int[] seen = {4, 8, 2, 16};
+        final int[] seen = new int[SEEN_COUNT];
         final People people = new People();
         /** What each one is to do in each minute: eight times the kind of move, and the WAY. */
         final int[] script = new int[MOST_PEOPLE * MINUTES];
+
+        Town() {
+            System.arraycopy(SEEN_WITHOUT, 0, seen, 0, SEEN_COUNT);
+        }
 
         void clear() {
             width = 0;
@@ -996,10 +1012,7 @@ public final class StillTown {
             Arrays.fill(sways, 0);
             cartCount = 0;
             lampCount = 0;
-            seen[0] = 4;
-            seen[1] = 8;
-            seen[2] = 2;
-            seen[3] = 16;
+            System.arraycopy(SEEN_WITHOUT, 0, seen, 0, SEEN_COUNT);
             people.count = 0;
             Arrays.fill(script, 0);
         }
@@ -1138,7 +1151,7 @@ public final class StillTown {
                 }
             }
             if ((set & town.trees) != 0 || town.anyLampAt(set) || town.people.anyAt(set)) {
-                return tape.blame(5);
+                return tape.blame(FAULT_TWICE);
             }
             town.walls |= set;
             return tape.takeStop();
@@ -1146,15 +1159,15 @@ public final class StillTown {
 
         private boolean readTree() {
             if (Long.bitCount(town.trees) >= MOST_TREES) {
-                return tape.blame(6);
+                return tape.blame(FAULT_MORE);
             }
             if (!readCell(0, 0)) {
                 return false;
             }
             if (has(town.walls | town.trees, cell())) {
-                return tape.blame(5);
+                return tape.blame(FAULT_TWICE);
             }
-            if (!tape.takeWord(WORD_SWAYS) || !tape.takeNumber(0, 16)) {
+            if (!tape.takeWord(WORD_SWAYS) || !tape.takeNumber(0, FULL)) {
                 return false;
             }
             town.trees |= 1L << cell();
@@ -1165,7 +1178,7 @@ public final class StillTown {
         private boolean readCart() {
             int cart = town.cartCount;
             if (cart >= MOST_CARTS) {
-                return tape.blame(6);
+                return tape.blame(FAULT_MORE);
             }
             if (!readCell(0, 0) || !tape.takeWord(WORD_GOES) || !tape.takeWay()) {
                 return false;
@@ -1183,18 +1196,18 @@ public final class StillTown {
                     return tape.blameToken();
                 }
             }
-            return tape.blame(6);
+            return tape.blame(FAULT_MORE);
         }
 
         private boolean readLamp() {
             if (town.lampCount >= MOST_LAMPS) {
-                return tape.blame(6);
+                return tape.blame(FAULT_MORE);
             }
             if (!readCell(0, 0)) {
                 return false;
             }
             if (has(town.walls, cell()) || town.anyLampAt(1L << cell())) {
-                return tape.blame(5);
+                return tape.blame(FAULT_TWICE);
             }
             town.lampCells[town.lampCount++] = cell();
             return tape.takeStop();
@@ -1202,26 +1215,26 @@ public final class StillTown {
 
         private boolean readPerson() {
             if (town.people.count >= MOST_PEOPLE) {
-                return tape.blame(6);
+                return tape.blame(FAULT_MORE);
             }
             if (!tape.takeName()) {
                 return false;
             }
             long name = tape.code;
             if (town.people.numberOf(name) != NONE) {
-                return tape.blame(3);
+                return tape.blame(FAULT_NAME);
             }
             if (!tape.takeWord(WORD_AT) || !readCell(0, 0)) {
                 return false;
             }
             if (has(town.walls, cell())) {
-                return tape.blame(5);
+                return tape.blame(FAULT_TWICE);
             }
             if (!tape.takeWord(WORD_LOOKS) || !tape.takeWay()) {
                 return false;
             }
             int look = tape.keyword;
-            if (!tape.takeWord(WORD_FAR) || !tape.takeNumber(1, 9)) {
+            if (!tape.takeWord(WORD_FAR) || !tape.takeNumber(1, FARTHEST)) {
                 return false;
             }
             town.people.add(name, cell(), look, tape.value);
@@ -1239,7 +1252,7 @@ public final class StillTown {
                 return false;
             }
             if (other == one) {
-                return tape.blame(5);
+                return tape.blame(FAULT_TWICE);
             }
             sets[one] |= 1 << other;
             return tape.takeStop();
@@ -1252,18 +1265,18 @@ public final class StillTown {
             }
             int person = town.people.numberOf(tape.code);
             if (person == NONE) {
-                tape.blame(3);
+                tape.blame(FAULT_NAME);
             }
             return person;
         }
 
         private boolean readSeen() {
             if (seenTold) {
-                return tape.blame(5);
+                return tape.blame(FAULT_TWICE);
             }
             seenTold = true;
             for (int i = 0; i < SEEN_COUNT; i++) {
-                if (!tape.takeWord(WORD_SLOW + i) || !tape.takeNumber(0, 16)) {
+                if (!tape.takeWord(WORD_SLOW + i) || !tape.takeNumber(0, FULL)) {
                     return false;
                 }
                 town.seen[i] = tape.value;
@@ -1313,10 +1326,10 @@ public final class StillTown {
             }
             person = people.numberOf(tape.code);
             if (person == NONE) {
-                return tape.blame(3);
+                return tape.blame(FAULT_NAME);
             }
             if (has(planned, person)) {
-                return tape.blame(5);
+                return tape.blame(FAULT_TWICE);
             }
             planned |= 1 << person;
             depth = 0;
@@ -1345,7 +1358,7 @@ public final class StillTown {
                 return tape.blameToken();
             }
             if (moves >= MOST_MOVES) {
-                return tape.blame(6);
+                return tape.blame(FAULT_MORE);
             }
             moves++;
             switch (word) {
@@ -1382,7 +1395,7 @@ public final class StillTown {
 
         private boolean openLoop() {
             if (depth >= MOST_DEPTH) {
-                return tape.blame(7);
+                return tape.blame(FAULT_DEEP);
             }
             if (!tape.takeNumber(1, MINUTES)) {
                 return false;

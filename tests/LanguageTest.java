@@ -44,6 +44,9 @@ public final class LanguageTest {
         none(code, "3", "\\[\\]\\[\\]\\[\\]");
         none(code, "10", "\" *\\+|\\+ *\"");
         none(code, "3", "[^\\x00-\\x7e]");
+        // rows are made with the object alone, so that no run of calls can fill the room
+        none(code, "12", "(?m)^ {12,}.*\\bnew\\b");
+        none(code.substring(0, code.indexOf("static final class")), "12", "(?m)^ {8,}.*\\bnew\\b");
     }
 
     /** The lengths of bodies that open at a depth of braces. */

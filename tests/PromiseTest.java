@@ -880,19 +880,6 @@ public final class PromiseTest {
         Check.refused(x, "signs till 61", x.signs(1, 0, chance - 1), 6);
     }
 
-    private static void thirtyMinutes() {
-        // teeth of a comb: the ways from end to end add up
-        String comb = "size 8 6;wall 1 1 to 1 5;wall 3 1 to 3 5;wall 5 1 to 5 5;wall 7 1 to 7 5;person a at ";
-        StillTown x = Check.townOf(comb + "4 0 looks n far 1;");
-        Check.answered(x, "found in 29", x.found(0, 93458488377345L), 29);
-        town(x, comb + "3 0 looks n far 1;");
-        Check.answered(x, "found in 30", x.found(0, 93458488360965L), 30);
-        town(x, "size 8 6;wall 0 0 to 0 0;wall 2 0 to 2 0;wall 7 0 to 7 0;wall 1 1 to 1 4;wall 3 1 to 6 1;wall 3 2 to 3 3;wall 5 2 to 6 2;"
-            + "wall 5 3 to 5 3;wall 7 3 to 7 3;wall 2 4 to 2 4;wall 5 4 to 6 4;wall 0 5 to 1 5;wall 3 5 to 4 5;wall 6 5 to 7 5;"
-            + "person a at 3 0 looks n far 1;");
-        Check.refused(x, "31 are too many", x.found(0, 72018285297664L), 6);
-    }
-
     private static void behindAFault() {
         StillTown x = Check.townOf(STREET);
         Check.refused(x, "a loop that does not end", Check.plan(x, "p does loop 2 loop 2 step w"), 9);
@@ -980,7 +967,6 @@ public final class PromiseTest {
         p46to49Days();
         p50p51Marks();
         lastMinutes();
-        thirtyMinutes();
         behindAFault();
         othersThanTheFirst();
         Check.finish("PromiseTest");

@@ -2,7 +2,10 @@ import java.util.ArrayList;
 import java.util.List;
 import java.util.Random;
 
-/** Towns and plans made by a fixed row of draws: every call answers what the Reference answers. */
+/**
+ * Towns and plans made by a fixed row of draws: every call answers what the Reference answers. An object is asked
+ * for no more than the 512 calls that the document promises: then another one is fed the same texts.
+ */
 public final class RandomTownTest {
     private static final String[] WAYS = {"n", "ne", "e", "se", "s", "sw", "w", "nw"};
     private static final String[] NAMES = {"a", "bo", "nn", "ann", "stil", "sizes", "abcdefgh", "zzzzzzzz"};
@@ -13,6 +16,9 @@ public final class RandomTownTest {
     private final StringBuilder planText = new StringBuilder();
     private StillTown x;
     private int moves = 0;
+    private int calls = 0;
+    /** Whether what is asked next depends on what this object was asked ahead. */
+    private boolean held = false;
     private int bigness;
     private boolean maze;
 
@@ -23,14 +29,13 @@ public final class RandomTownTest {
     public static void main(String[] args) {
         int runs = args.length > 0 ? Integer.parseInt(args[0]) : 260;
         long base = args.length > 1 ? Long.parseLong(args[1]) : 1;
-        StillTown used = new StillTown();
         for (int i = 0; i < runs; i++) {
             RandomTownTest test = new RandomTownTest(base + i);
             test.build();
             test.enter(new StillTown());
             test.ask();
             if (i % 4 == 3) {
-                oneBehindTheOther(used, base + i);
+                oneBehindTheOther(base + i);
             }
         }
         for (int i = 0; i < 8 * runs; i++) {
@@ -42,7 +47,8 @@ public final class RandomTownTest {
     }
 
     /** What an object had ahead is gone with a new town, and is all there again behind a mark taken back. */
-    private static void oneBehindTheOther(StillTown used, long seed) {
+    private static void oneBehindTheOther(long seed) {
+        StillTown used = new StillTown();
         RandomTownTest[] tests = new RandomTownTest[4];
         for (int i = 0; i < tests.length; i++) {
             tests[i] = new RandomTownTest(seed + 100_000 * (i + 1));
@@ -52,10 +58,38 @@ public final class RandomTownTest {
                 Check.answered(used, "mark", used.mark(), i + 1);
             }
         }
-        tests[3].ask();
+        tests[3].askBriefly();
         for (int i = 2; i >= 0; i--) {
             Check.answered(used, "back", used.back(), i);
-            tests[i].ask();
+            tests[i].askBriefly();
+        }
+    }
+
+    /** Some fifty calls. */
+    private void askBriefly() {
+        held = true;
+        for (int i = 0; i < 6; i++) {
+            same("told " + i, x.told(i), new int[] {want.width, want.height, trees(), want.carts.size(), want.lamps.size(), want.people.size()}[i]);
+        }
+        int n = want.people.size();
+        int cell = below(want.cells());
+        same("wall " + cell, x.wall(cell), want.wall[cell] ? 1 : 0);
+        int minute = 1 + below(60);
+        same("moving " + minute, x.moving(minute), want.moving(minute));
+        if (n > 0) {
+            int p = below(n);
+            askPerson(p, minute);
+            same("gone " + p, x.gone(p), want.gone(p));
+            if (!want.wall[cell]) {
+                same("mayBe " + p + " " + cell + " " + minute, x.mayBe(p, cell, minute), want.mayBe(p, cell, minute));
+                sameIfAny("way " + p + " " + cell, x.way(p, cell), want.way(p, cell));
+            }
+            int q = below(n);
+            if (q != p) {
+                same("unseen " + p + " " + q, x.unseen(p, q, 60), want.unseen(p, q, 60));
+                same("followed " + p + " " + q, x.followed(p, q, 5), want.followed(p, q, 5));
+            }
+            same("day 7", x.day(7), want.day(7)[n]);
         }
     }
 
@@ -139,6 +173,7 @@ public final class RandomTownTest {
 
     private void enter(StillTown object) {
         x = object;
+        calls = 6 + (text.length() + 19) / 20 + (planText.length() + 19) / 20;
         Check.answered(x, "town " + text, Check.town(x, text.toString()), want.cells());
         if (planText.length() > 0) {
             Check.answered(x, "plan " + planText, Check.plan(x, planText.toString()), moves);
@@ -321,12 +356,21 @@ public final class RandomTownTest {
     private void same(String call, long got, long due) {
         Check.due(show(call), got, due);
         Check.due(show(call) + ": status", x.status(), 0);
+        renewIfUsed();
+    }
+
+    private void renewIfUsed() {
+        calls += 2;
+        if (calls > 370 && !held) {
+            enter(new StillTown());
+        }
     }
 
     /** The Reference tells -1 where there is none such. */
     private void sameIfAny(String call, long got, long due) {
         Check.due(show(call), got, due);
         Check.due(show(call) + ": status", x.status(), due == -1 ? 6 : 0);
+        renewIfUsed();
     }
 
     private void ask() {
@@ -428,6 +472,7 @@ public final class RandomTownTest {
 
     private void askWay(int p, int cell) {
         int minutes = want.way(p, cell);
+        held = true;
         sameIfAny("way " + p + " " + cell, x.way(p, cell), minutes);
         for (int t = 0; t <= minutes; t++) {
             same("wayCell " + t + " of way " + p + " " + cell, x.wayCell(t), want.path.get(t));
@@ -435,6 +480,7 @@ public final class RandomTownTest {
         if (minutes >= 0) {
             sameIfAny("wayCell beyond", x.wayCell(minutes + 1), -1);
         }
+        held = false;
     }
 
     private void askTwo(int p, int q) {
@@ -459,6 +505,7 @@ public final class RandomTownTest {
         int n = want.people.size();
         int seed = below(9970);
         int[] day = want.day(seed);
+        held = true;
         same("day " + seed, x.day(seed), day[n]);
         int many = 1 + below(30);
         int safe = 0;
@@ -480,6 +527,7 @@ public final class RandomTownTest {
             sameIfAny("saw " + p, x.saw(p), -1);
         }
         same("caught", x.caught(), day[n + 1]);
+        held = false;
     }
 
     private static void words(Random random) {

@@ -30,6 +30,32 @@ public final class EdgeTest {
         return part.repeat(n);
     }
 
+    /** A wall for each CELL that is marked with #. */
+    private static String walls(String... rows) {
+        StringBuilder text = new StringBuilder("size " + rows[0].length() + " " + rows.length + ";");
+        for (int y = 0; y < rows.length; y++) {
+            for (int px = 0; px < rows[y].length(); px++) {
+                int from = px;
+                while (px < rows[y].length() && rows[y].charAt(px) == '#') {
+                    px++;
+                }
+                if (px > from) {
+                    text.append("wall ").append(from).append(" ").append(y).append(" to ").append(px - 1).append(" ").append(y).append(";");
+                }
+            }
+        }
+        return text.toString();
+    }
+
+    private static void path(StillTown x, int person, int... cells) {
+        int goal = cells[cells.length - 1];
+        Check.answered(x, "way to " + goal, x.way(person, goal), cells.length - 1);
+        for (int t = 0; t < cells.length; t++) {
+            Check.answered(x, "its cell behind minute " + t, x.wayCell(t), cells[t]);
+        }
+        Check.refused(x, "behind its end", x.wayCell(cells.length), 6);
+    }
+
     private static void fraction(StillTown x, long top, long bottom) {
         Check.due("top", x.top(), top);
         Check.due("bottom", x.bottom(), bottom);
@@ -401,6 +427,27 @@ public final class EdgeTest {
         }
         Check.answered(x, "aslant", x.way(0, 22), 2);
         Check.answered(x, "there is but one", x.wayCell(1), 16);
+        // two ways round of seven minutes: the first minute counts, though the other way has less in the second
+        x = Check.townOf(walls("####.###", "#.#.#.##", ".#.###.#", ".#####.#", "#.###.##", "##...###") + "person p at 3 1 looks n far 9;");
+        path(x, 0, 11, 4, 13, 22, 30, 37, 44, 43);
+        // to stay comes first by its CELL, or last
+        String street = "size 4 2;wall 0 1 to 3 1;person o at 3 0 looks w far 9;person p at 0 0 looks n far 9;hides p from o;";
+        x = Check.townOf(street);
+        plan(x, "o does still 2 turn e;");
+        path(x, 1, 0, 0, 0, 1);
+        plan(x, "o does turn e still 1 turn w;");
+        path(x, 1, 0, 1, 2, 3);
+    }
+
+    /** "each minute STILL ..": where it may not stay in the next minute it is not there a minute too soon. */
+    private static void notTooSoon() {
+        // p goes onto the tree unseen, but may not stay there when o turns; onto the goal it may when o looks away
+        StillTown x = Check.townOf("size 4 2;wall 1 1 to 3 1;tree 1 0 sways 13;person p at 0 1 looks n far 9;person o at 3 0 looks w far 9;"
+            + "hides p from o;");
+        plan(x, "o does still 1 turn w turn e;");
+        path(x, 0, 4, 4, 1, 2);
+        plan(x, "o does still 2 turn e;");
+        path(x, 0, 4, 1, 1, 2);
     }
 
     /** "so that no WATCHER's WEIGHT is above 0": 0 and 1, slowly, still, in a tree; of watchers alone. */
@@ -448,6 +495,19 @@ public final class EdgeTest {
         plan(x, "o does loop 60 turn w end;");
         Check.answered(x, "there and back", x.likeliest(0, 0, 2), 1000000 * 12 / 16 * 12 / 16);
         Check.answered(x, "seen for sure is not that it can't be", x.likeliest(0, 0, 1), 0);
+        // by PERSON 0; halved each minute, and to go on is worse: 1 behind minute 19, rounded down to 0 then
+        x = Check.townOf("size 4 2;wall 0 1 to 3 1;person o at 3 0 looks w far 9;person p at 0 0 looks n far 9;hides p from o;"
+            + "seen slow 16 turn 0 sign 0 self 8;");
+        plan(x, "o does loop 60 turn w end;");
+        int half = 1000000;
+        for (int n = 1; n <= 30; n++) {
+            half /= 2;
+            Check.answered(x, "still for " + n, x.likeliest(1, 0, n), half);
+        }
+        // in the greatest town, to its last CELL
+        x = Check.townOf("size 8 6;person p at 0 0 looks n far 9;person o at 0 0 looks nw far 9;hides p from o;");
+        Check.answered(x, "to the last cell", x.likeliest(0, 47, 7), 1000000);
+        Check.refused(x, "not in 6", x.likeliest(0, 47, 6), 6);
     }
 
     /** "(at most 60; 0 if it shows to nobody)": SHOWN in 1, 60, 61 minutes; "each of those to whom it SHOWS": none, one, seven. */
@@ -474,6 +534,12 @@ public final class EdgeTest {
         Check.answered(x, "to seven", x.person(0, 2), 254);
         // the seventh looks south: it sees the CELLS 8 and 9 alone; the others see 9, too
         Check.answered(x, "to six soon, to the seventh at the end of the row", x.shown(0), 3);
+        // to PERSON 0, and to it and PERSON 1
+        x = Check.townOf("size 8 2;wall 0 1 to 7 1;person q at 0 0 looks w far 9;person r at 0 0 looks e far 9;person p at 4 0 looks n far 1;shows p to q;");
+        Check.refused(x, "to one who looks away", x.shown(2), 6);
+        x = Check.townOf("size 8 2;wall 0 1 to 7 1;person q at 0 0 looks e far 1;person r at 0 0 looks e far 9;person p at 4 0 looks n far 1;"
+            + "shows p to q;shows p to r;");
+        Check.answered(x, "to one who sees but one cell", x.shown(2), 3);
     }
 
     /** "has seen it with WEIGHT 16 once": 15 is not enough. */
@@ -506,6 +572,13 @@ public final class EdgeTest {
         Check.answered(x, "six in a row", x.found(0, 63L << 42), 1);
         Check.answered(x, "six in the corner", x.found(0, picture("........", ".#......", "..#.....", "...#....", "....#...", ".....#.#")), 1);
         Check.answered(x, "with its own cell", x.found(0, 1), 2);
+        String street = "size 8 2;wall 0 1 to 7 1;person a at 0 0 looks w far 9;cart 5 ";
+        x = Check.townOf(street + "1 goes n s;");
+        Check.answered(x, "a cart in minute 1", x.found(0, 1L << 7), 2);
+        x = Check.townOf(street + "0 goes s n;");
+        Check.answered(x, "a cart in minutes 0 and 2", x.found(0, 1L << 7), 1);
+        x = Check.townOf(street + "0 goes n;");
+        Check.answered(x, "a cart for good", x.found(0, 1L << 7), 5);
         // teeth of a comb: the ways from end to end add up
         String comb = "size 8 6;wall 1 1 to 1 5;wall 3 1 to 3 5;wall 5 1 to 5 5;wall 7 1 to 7 5;person a at ";
         x = Check.townOf(comb + "4 0 looks n far 1;");
@@ -556,6 +629,32 @@ public final class EdgeTest {
         }
         StillTown x = Check.townOf("size 2 2;wall 1 0 to 1 1;wall 0 1 to 0 1;person a at 0 0 looks e far 9;person b at 0 0 looks e far 9;");
         Check.refused(x, "on one cell that none leaves", x.meeting(0, 1), 6);
+        x = Check.townOf("size 8 2;wall 0 1 to 7 1;person a at 7 0 looks e far 1;person b at 1 0 looks e far 9;");
+        Check.answered(x, "one sees the other soon, that one does not", x.meeting(0, 1), 3);
+        Check.answered(x, "the other way round", x.meeting(1, 0), 3);
+    }
+
+    /** "both look all round (F and S are not asked)", "each minute each is STILL or steps": in a town of two CELLS, each WAY. */
+    private static void meetingEachWay() {
+        for (int way = 0; way < 8; way++) {
+            String[] rows = {"###", "#.#", "###"};
+            int y = 1 + SOUTH[way];
+            int px = 1 + EAST[way];
+            rows[y] = rows[y].substring(0, px) + "." + rows[y].substring(px + 1);
+            for (int look = 0; look < 8; look++) {
+                StillTown x = Check.townOf(walls(rows) + "person a at 1 1 looks " + WAYS[look] + " far 1;person b at " + px + " " + y + " looks "
+                    + WAYS[look] + " far 1;");
+                Check.answered(x, "they change places, " + WAYS[way], x.meeting(0, 1), 1);
+                Check.answered(x, "they change places, " + WAYS[way], x.meeting(1, 0), 1);
+            }
+        }
+        // carts go through the street, and PEOPLE past them: one stands between till they are side by side
+        StillTown x = Check.townOf("size 8 2;wall 0 1 to 7 1;person a at 0 0 looks n far 9;person b at 7 0 looks n far 9;cart 3 0 goes n;");
+        Check.answered(x, "a cart between", x.meeting(0, 1), 3);
+        x = Check.townOf("size 8 2;wall 0 1 to 7 1;person a at 0 0 looks n far 9;person b at 7 0 looks n far 9;cart 3 1 goes n s;");
+        Check.answered(x, "a cart between in minute 1", x.meeting(0, 1), 2);
+        x = Check.townOf("size 8 2;wall 0 1 to 7 1;person a at 0 0 looks n far 9;person b at 7 0 looks n far 9;cart 3 0 goes s n;");
+        Check.answered(x, "a cart between in minute 2", x.meeting(0, 1), 1);
     }
 
     /** "(it is 0, if they are on one CELL; a hider that can't be had: none)". */
@@ -755,6 +854,11 @@ public final class EdgeTest {
         plan(x, "p does loop 60 sign end;");
         Check.answered(x, "always a sign", x.gone(0), 0);
         Check.answered(x, "o is seen by nobody", x.gone(1), 60);
+        x = Check.townOf("size 8 2;person p at 4 0 looks n far 1;person o at 0 0 looks e far 4;seen slow 0 turn 0 sign 1 self 0;");
+        plan(x, "p does sign;");
+        Check.answered(x, "person 0, with a weight of 1", x.gone(1), 59);
+        plan(x, "p does turn n;");
+        Check.answered(x, "person 0, with a weight of 0", x.gone(1), 60);
         x = Check.townOf(town + "cart 1 0 goes e w;");
         Check.answered(x, "always a cart", x.gone(0), 0);
         x = Check.townOf(town + "cart 1 0 goes n;");
@@ -845,6 +949,15 @@ public final class EdgeTest {
         Check.answered(x, "swept in 60", x.swept(0, 60), 47);
         x = Check.townOf("size 2 2;wall 1 0 to 1 1;wall 0 1 to 0 1;person a at 0 0 looks n far 1;");
         Check.answered(x, "walls are cells, too", x.swept(0, 1), 3);
+        // a turn to the north alone brings so many
+        x = Check.townOf("size 5 6;person a at 2 5 looks s far 9;");
+        Check.answered(x, "north", x.swept(0, 1), 3 + 5 * 4);
+        // steps to the north, where no turn brings anything
+        x = Check.townOf("size 2 6;wall 1 0 to 1 5;person a at 0 5 looks s far 1;");
+        int[] steps = {0, 3, 5, 7, 9, 11, 11};
+        for (int n = 0; n < steps.length; n++) {
+            Check.answered(x, "up the street in " + n, x.swept(0, n), steps[n]);
+        }
     }
 
     /** "GALLERY: .. at least n of them (0 to 8) at minute 0 (one who stands on it counts, too)": none, all eight. */
@@ -861,6 +974,11 @@ public final class EdgeTest {
         Check.refused(x, "one of none", x.gallery(1), 6);
         x = Check.townOf("size 2 2;wall 0 0 to 1 1;");
         Check.answered(x, "no cell that is no wall", x.gallery(8), 0);
+        // at minute 0, whatever they do then
+        x = Check.townOf("size 3 2;wall 0 1 to 2 1;person a at 0 0 looks w far 9;person b at 0 0 looks e far 9;");
+        plan(x, "b does turn w;a does turn e;");
+        Check.answered(x, "at minute 0", x.gallery(1), 2);
+        Check.refused(x, "at minute 0 there are not two", x.gallery(2), 6);
         // a and b together, or c alone, who is the greater number
         x = Check.townOf("size 3 2;wall 0 1 to 2 1;person a at 0 0 looks w far 1;person b at 2 0 looks w far 1;person c at 0 0 looks e far 9;");
         Check.answered(x, "the fewest", x.gallery(1), 4);
@@ -945,6 +1063,15 @@ public final class EdgeTest {
         Check.answered(x, "seen three times", x.day(0), 3);
         Check.answered(x, "caught once", x.caught(), 1);
         Check.answered(x, "the last one saw nobody", x.saw(7), 0);
+        x = Check.townOf("size 5 2;person p at 4 0 looks n far 1;person o at 0 0 looks e far 9;hides p from o;");
+        plan(x, "p does step w;");
+        Check.answered(x, "person 0 is seen", x.day(0), 1);
+        Check.answered(x, "person 0 is caught", x.caught(), 1);
+        // who SHOWS does not HIDE
+        x = Check.townOf("size 5 2;person p at 4 0 looks n far 1;person o at 0 0 looks e far 9;shows p to o;hides o from p;");
+        plan(x, "p does step w;");
+        Check.answered(x, "who shows is seen", x.day(0), 1);
+        Check.answered(x, "and not caught", x.caught(), 0);
     }
 
     /** "by how many of so many seeds (1 to 30)", "without a common divisor, the bottom above 0; 0 is 0 by 1". */
@@ -1008,6 +1135,127 @@ public final class EdgeTest {
         Check.answered(x, "nobody caught then", x.caught(), 0);
     }
 
+    /** "In WAYS that are looked for a PERSON goes from where it is at minute 0, whatever the PLAN says of it". */
+    private static void whateverThePlanSays() {
+        String town = "size 6 3;wall 2 1 to 3 1;tree 1 2 sways 9;cart 5 0 goes w e;person o at 5 1 looks w far 4;person p at 0 2 looks n far 3;"
+            + "person q at 3 2 looks w far 2;hides p from o;shows p to q;";
+        long[][] answers = new long[4][];
+        String[] plans = {"", "p does step n;", "p does loop 9 step e end turn s;", "p does sign slow n turn w still 3 step ne;"};
+        for (int i = 0; i < plans.length; i++) {
+            StillTown x = Check.townOf(town);
+            plan(x, "o does turn nw still 3 turn sw step w;q does still 1 turn nw;" + plans[i]);
+            answers[i] = new long[] {x.way(1, 5), x.wayCell(1), x.wayCell(2), x.way(1, 12), x.way(1, 15), x.likeliest(1, 4, 6), x.likeliest(1, 17, 5),
+                x.shown(1), x.found(1, 1L << 17 | 1), x.found(1, 1L << 4), x.meeting(0, 1), x.meeting(1, 2), x.followed(1, 0, 4), x.followed(1, 2, 2),
+                x.signs(1, 2, 800000), x.signs(1, 0, 800000), x.swept(1, 3), x.swept(1, 60), x.gallery(1), x.lamps(0), x.person(1, 0)};
+            for (int k = 0; k < answers[i].length; k++) {
+                Check.due("question " + k + " with the plan " + plans[i], answers[i][k], answers[0][k]);
+            }
+        }
+        // but of all others it counts
+        StillTown x = Check.townOf(CORNER);
+        Check.refused(x, "o looks on", x.way(0, 5), 6);
+        plan(x, "o does turn n;p does step e;");
+        Check.answered(x, "o looks away", x.way(0, 5), 2);
+    }
+
+    /** The fullest town: 48 CELLS, 8 TREES, 4 CARTS of 8 WAYS, 8 LAMPS, 8 PEOPLE, who look away from all that. */
+    private static String fullTown() {
+        StringBuilder text = new StringBuilder("size 8 6;");
+        for (int i = 0; i < 8; i++) {
+            text.append("tree ").append(i).append(" 5 sways ").append(i + 1).append(";lamp ").append(i).append(" 4;");
+        }
+        text.append("cart 1 1 goes e e s s w w n n;cart 2 2 goes s s e e n n w w;cart 0 3 goes n n n s s s e w;cart 7 5 goes n w s e n w s e;");
+        for (char c = 'a'; c <= 'h'; c++) {
+            text.append("person p").append(c).append(" at 0 0 looks nw far 9;");
+        }
+        return text.append("hides pa from ph;shows ph to pa;").toString();
+    }
+
+    /** All at once as many as there may be: each call that goes over all of them. */
+    private static void theFullestTown() {
+        StillTown x = new StillTown();
+        Check.answered(x, "the fullest town", Check.town(x, fullTown()), 48);
+        plan(x, "ph does loop 60 turn nw end;pa does sign;");
+        int[] told = {8, 6, 8, 4, 8, 8, 4, 8, 2, 16};
+        for (int i = 0; i < told.length; i++) {
+            Check.answered(x, "told " + i, x.told(i), told[i]);
+        }
+        for (int p = 0; p < 8; p++) {
+            Check.answered(x, "sight", x.sight(p, 60), 0);
+            Check.answered(x, "stands", x.stands(p, 0), 0);
+            Check.answered(x, "gone", x.gone(p), 60);
+            Check.answered(x, "near", x.near(p, 7 - p, 60), 60);
+            Check.answered(x, "unseen", x.unseen(p, 7 - p, 60), 1000000);
+            Check.answered(x, "stood", x.stood(p, 7 - p), 60);
+            Check.answered(x, "followed", x.followed(p, 7 - p, 1), 60);
+            Check.refused(x, "first", x.first(p, 7 - p, 1), 6);
+            Check.refused(x, "signs", x.signs(p, 7 - p, 999999), 6);
+            Check.answered(x, "way", x.way(p, 47), 7);
+            Check.answered(x, "likeliest", x.likeliest(p, 47, 7), 1000000);
+            Check.answered(x, "found", x.found(p, 1L << 47), x.found(0, 1L << 47));
+            Check.answered(x, "mayBe", x.mayBe(p, 47, 60), (1L << 48) - 1);
+            Check.answered(x, "meeting", x.meeting(p, 7 - p), 1);
+        }
+        Check.refused(x, "judged", x.judged(0), 6);
+        Check.refused(x, "shown to one who looks away", x.shown(7), 6);
+        Check.answered(x, "shown to nobody", x.shown(0), 0);
+        Check.answered(x, "moving", x.moving(1), 2 + 4);
+        Check.answered(x, "day", x.day(9999), 0);
+        Check.answered(x, "caught", x.caught(), 0);
+        Check.answered(x, "saw", x.saw(7), 0);
+        Check.affirmed(x, "safe", x.safe(9970, 30));
+        fraction(x, 1, 1);
+        Check.refused(x, "lamps", x.lamps(1), 6);
+        Check.refused(x, "gallery", x.gallery(1), 6);
+        Check.answered(x, "swept", x.swept(7, 60) > 40 ? 1 : 0, 1);
+        Check.answered(x, "hunted", x.hunted(0, 47) > 0 ? 1 : 0, 1);
+    }
+
+    /** "the TOWN, the PLAN are kept as they are": each part of the fullest town. */
+    private static void theFullestTownIsKept() {
+        StillTown x = new StillTown();
+        StillTown kept = new StillTown();
+        for (StillTown one : new StillTown[] {x, kept}) {
+            Check.town(one, fullTown() + "wall 6 0 to 7 3;seen slow 1 turn 2 sign 3 self 5;");
+            plan(one, "pa does step e step e turn sw;ph does slow s slow s sign turn n;pd does still 59 step e;");
+        }
+        Check.answered(x, "a mark", x.mark(), 1);
+        Check.town(x, walls(".......", "#######", ".......") + "cart 1 1 goes w;cart 3 1 goes s n;cart 3 1 goes s s;cart 3 1 goes e;lamp 4 0;lamp 5 0;"
+            + "tree 4 0 sways 16;tree 1 2 sways 0;person ph at 6 2 looks s far 1;person pb at 5 2 looks n far 2;shows pb to ph;hides ph from pb;"
+            + "seen slow 9 turn 9 sign 9 self 9;");
+        plan(x, "ph does sign loop 30 step e step w end;");
+        Check.answered(x, "the other town", x.told(1), 3);
+        Check.answered(x, "back", x.back(), 0);
+        for (int i = 0; i < 10; i++) {
+            Check.answered(x, "told " + i, x.told(i), kept.told(i));
+        }
+        for (int cell = 0; cell < 48; cell += 3) {
+            Check.answered(x, "wall " + cell, x.wall(cell), kept.wall(cell));
+            Check.answered(x, "sways " + cell, x.sways(cell), kept.sways(cell));
+        }
+        for (int t = 0; t <= 60; t += 7) {
+            for (int cart = 0; cart < 4; cart++) {
+                Check.answered(x, "cart " + cart + " at " + t, x.cart(cart, t), kept.cart(cart, t));
+            }
+        }
+        for (int p = 0; p < 8; p++) {
+            Check.answered(x, "lamp " + p, x.lamp(p), kept.lamp(p));
+            for (int what = 0; what < 3; what++) {
+                Check.answered(x, "person " + p, x.person(p, what), kept.person(p, what));
+            }
+            for (int t : new int[] {0, 2, 60}) {
+                Check.answered(x, "at", x.at(p, t), kept.at(p, t));
+                Check.answered(x, "looks", x.looks(p, t), kept.looks(p, t));
+                Check.answered(x, "sight", x.sight(p, t), kept.sight(p, t));
+            }
+        }
+        for (char c = 'a'; c <= 'h'; c++) {
+            Check.answered(x, "the name of p" + c, Check.plan(x, "p" + c + " does sign;"), 1);
+            Check.answered(x, "its sign", x.did(c - 'a', 1), 4);
+        }
+        Check.refused(x, "no other name", Check.plan(x, "pi does sign;"), 9);
+    }
+
     /** "MARKS, at most 3: .. all is taken back to the latest MARK, which is gone then". */
     private static void threeMarks() {
         StillTown x = new StillTown();
@@ -1061,6 +1309,7 @@ public final class EdgeTest {
         unseenMinuteByMinute();
         unseenWays();
         firstByItsCells();
+        notTooSoon();
         weightsAboveNothing();
         likeliestInSoManyMinutes();
         shownToAll();
@@ -1068,6 +1317,7 @@ public final class EdgeTest {
         foundInThirtyMinutes();
         mayBeAfterMinutes();
         meetingAsFarAsEachSees();
+        meetingEachWay();
         huntedFromCellToCell();
         lampsFromNoneToAll();
         wordsByKinds();
@@ -1087,6 +1337,9 @@ public final class EdgeTest {
         caughtFromNoneToAll();
         fractionsOfSafeDays();
         sawThen();
+        whateverThePlanSays();
+        theFullestTown();
+        theFullestTownIsKept();
         threeMarks();
         Check.finish("EdgeTest");
     }

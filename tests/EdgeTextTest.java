@@ -64,6 +64,85 @@ public final class EdgeTextTest {
         Check.answered(more, "all 900 then", more.town(900), 12);
     }
 
+    /** Texts of one TOKEN or of none that fill the tape to its last byte. */
+    private static void nineHundredBytesAlike() {
+        fault(times(900, "a"), 2, 0);
+        fault(times(900, "7"), 1, 0);
+        fault(times(900, ";"), 2, 0);
+        fault(times(900, " "), 2, 900);
+        fault(times(900, "?"), 1, 0);
+        String lamp = BASE + times(900 - 17, " ") + "lamp 0 ";
+        fault(lamp + "1", 2, 900);
+        String head = BASE + times(900 - 9 - 5, "\n");
+        fault(head + "lamps", 2, 895);
+        fault(head + "12345", 1, 895);
+        fault(head + " seen", 2, 900);
+    }
+
+    /** "The first n bytes of the tape": what is behind them is not read, though a TOKEN could go on. */
+    private static void theFirstBytesAlone() {
+        String text = BASE + "person abcdefghij at 0 0 looks nw far 9999;lamp 12 11;cart 1 1 goes ne n;";
+        for (int n = 0; n < text.length(); n++) {
+            StillTown whole = new StillTown();
+            Check.feed(whole, text);
+            StillTown cut = new StillTown();
+            int answer = Check.town(cut, text.substring(0, n));
+            Check.due("the first " + n + " bytes", whole.town(n), answer);
+            Check.due("their fault", whole.fault(0), cut.fault(0));
+            Check.due("its place", whole.fault(1), cut.fault(1));
+        }
+        fault("size 4 3;lamp 0 0", 2, 17);
+        StillTown x = new StillTown();
+        Check.feed(x, "size 4 32;lamp");
+        Check.refused(x, "size 4 3 and no more", x.town(8), 9);
+        Check.due("it ends there", x.fault(1), 8);
+        Check.feed(x, "size 4 3;lamp 0 10;");
+        Check.refused(x, "lamp 0 1 and no more", x.town(17), 9);
+        Check.due("the number is 1", x.fault(0), 2);
+        Check.due("it ends behind it", x.fault(1), 17);
+        x = Check.townOf(PEOPLE);
+        Check.feed(x, "a does step nw;b does still 601;");
+        Check.refused(x, "step n and no more", x.plan(13), 9);
+        Check.due("it ends there", x.fault(1), 13);
+        Check.feed(x, "a does step nw;b does still 60;does");
+        Check.answered(x, "two moves and no more", x.plan(31), 2);
+    }
+
+    /** "PART: wall .. or seen ..", "MOVE: step WAY, .. or loop ..", "WAY: n, .. or nw": no other WORD can stand there. */
+    private static void wordsWhereTheyCanStand() {
+        java.util.Set<String> parts = java.util.Set.of("wall", "tree", "cart", "lamp", "person", "hides", "shows", "seen");
+        java.util.Set<String> moves = java.util.Set.of("step", "slow", "turn", "sign", "still", "loop");
+        java.util.Set<String> ways = java.util.Set.of(WAYS);
+        for (String word : (KEPT + " a b abcdefghi 7 0 ;").split(" ")) {
+            if (parts.contains(word)) {
+                fault(BASE + word, 2, BASE.length() + word.length());
+            } else {
+                faultBehind(BASE, word, 2);
+                faultBehind(BASE + "lamp 0 0;", word + " 0 0;", 2);
+            }
+            if (!word.equals("size")) {
+                faultBehind("", word + " 4 3;", 2);
+            }
+            if (!ways.contains(word)) {
+                faultBehind(BASE + "cart 1 1 goes ", word + ";", 2);
+                faultBehind(BASE + "person c at 0 0 looks ", word + " far 1;", 2);
+                planFaultBehind("a does step ", word + ";", 2);
+                planFaultBehind("a does slow ", word + ";", 2);
+                planFaultBehind("a does turn ", word + ";", 2);
+            }
+            if (!moves.contains(word) && !word.equals(";")) {
+                planFaultBehind("a does ", word + ";", 2);
+                planFaultBehind("a does sign ", word + ";", 2);
+            }
+            if (!moves.contains(word) && !word.equals("end")) {
+                planFaultBehind("a does loop 2 ", word, 2);
+            }
+            if (!word.equals("does")) {
+                planFaultBehind("a ", word + " sign;", 2);
+            }
+        }
+    }
+
     /** "TOKENS, as long as they go": no TOKEN ends where it could go on. */
     private static void tokensGoAsLongAsTheyCan() {
         fault("sizes 4 3;", 2, 0);
@@ -613,6 +692,28 @@ public final class EdgeTextTest {
         does(x, 3, 0);
     }
 
+    /** "what is beyond is left out": it comes to nobody else's minutes. */
+    private static void beyondIsLeftOut() {
+        for (String moves : new String[] {"still 60 sign", "loop 60 sign end turn n", "loop 60 loop 60 step e end end", "still 59 still 60 sign sign"}) {
+            StillTown x = planned("a does " + moves + ";", moves.split("still|sign|loop|turn|step", -1).length - 1);
+            for (int t = 1; t <= 60; t++) {
+                Check.answered(x, "b is still behind " + moves, x.did(1, t), 0);
+            }
+            x = Check.townOf(eight("person p%3$c at %d %d looks n far 1;", 8));
+            Check.due("of the last one", Check.plan(x, "ph does " + moves + ";") > 0, true);
+            for (int t : new int[] {1, 2, 59, 60}) {
+                for (int p = 0; p < 7; p++) {
+                    Check.answered(x, p + " is still behind " + moves, x.did(p, t), 0);
+                }
+            }
+        }
+        // told ahead of the one whose minutes come next, and behind it
+        StillTown x = planned("b does sign still 1 sign;a does still 60 turn n;", 5);
+        Check.answered(x, "b signs", x.did(1, 1), 4);
+        x = planned("a does still 60 turn n;b does sign still 1 sign;", 5);
+        Check.answered(x, "b signs", x.did(1, 1), 4);
+    }
+
     /** "6 a 41st MOVE (at its WORD; loop is one, end none)". */
     private static void fortyMoves() {
         planned("a does " + times(39, "sign ") + ";", 39);
@@ -687,6 +788,9 @@ public final class EdgeTextTest {
 
     public static void main(String[] args) {
         townOfNineHundredBytes();
+        nineHundredBytesAlike();
+        theFirstBytesAlone();
+        wordsWhereTheyCanStand();
         tokensGoAsLongAsTheyCan();
         everyByteBetweenTokens();
         wordsOfSmallLetters();
@@ -711,6 +815,7 @@ public final class EdgeTextTest {
         noMovesAndOne();
         stillSoManyMinutes();
         loopsSoOften();
+        beyondIsLeftOut();
         fortyMoves();
         loopsWithinLoops();
         peopleOfAPlan();
